@@ -161,6 +161,15 @@ public final class PromiseTest {
             "putMarble(0, 0, 3, 0) = 0", "putMarble(1, 0, 1, 0) = 1",
             "ifFlicked(0, 2, 13, 4) = 2000", "ifFlicked(0, 2, 14, 4) = 1900", "ifFlicked(0, 2, 40, 4) = 1900",
             "flick(0, 2, 40) = 0", "at(19, 0) = 1", "at(0, 0) = 0", "count(7) = 1");
+        // No chain of 12 marbles is known that is longer: to the wall and back through all, across and back, and again.
+        Script.run("6 flick, a chain of 44 hits",
+            "putMarble(0, 0, 1, 0) = 0", "putMarble(1, 0, 1, 0) = 1", "putMarble(2, 0, 1, 0) = 2",
+            "putMarble(3, 0, 1, 0) = 3", "putMarble(4, 0, 1, 0) = 4", "putMarble(5, 0, 1, 0) = 5",
+            "putMarble(6, 0, 1, 0) = 6", "putMarble(7, 0, 1, 0) = 7", "putMarble(8, 0, 1, 0) = 8",
+            "putMarble(9, 0, 1, 0) = 9", "putMarble(10, 0, 1, 0) = 10", "putMarble(11, 0, 1, 0) = 11",
+            "ifFlicked(11, 6, 40, 2) = 44", "ifFlicked(11, 6, 40, 3) = 11", "ifFlicked(11, 6, 40, 4) = 1300",
+            "ifFlicked(11, 6, 38, 2) = 22", "ifFlicked(11, 6, 39, 2) = 44", "ifFlicked(11, 6, 39, 4) = 1200",
+            "flick(11, 6, 40) = 0", "count(4) = 44", "count(7) = 3", "at(13, 0) = 11", "at(10, 0) = 10");
     }
 
     private static void flickChalk() throws Exception {
