@@ -43,7 +43,6 @@ public final class ChalkRings {
     private final Playground trial;
     private final Roll roll;
     private final History history;
-    private final Text text;
     private final ItemReader reader;
 
     /** Creates an empty playground. */
@@ -52,8 +51,7 @@ public final class ChalkRings {
         trial = new Playground();
         roll = new Roll();
         history = new History();
-        text = new Text();
-        reader = new ItemReader(text);
+        reader = new ItemReader();
     }
 
     // ---- playground
@@ -274,13 +272,13 @@ public final class ChalkRings {
         if (code < FIRST_CODE || code > LAST_CODE) {
             return BAD_VALUE;
         }
-        return text.append((char) code) ? text.length : LIMIT;
+        return reader.text.append((char) code) ? reader.text.length : LIMIT;
     }
 
     /** Makes the text empty and returns the previous length of the text. */
     public int clearText() {
-        int before = text.length;
-        text.length = 0;
+        int before = reader.text.length;
+        reader.text.length = 0;
         return before;
     }
 
@@ -309,7 +307,7 @@ public final class ChalkRings {
             }
             done++;
         }
-        text.length = 0;
+        reader.text.length = 0;
         return done;
     }
 
@@ -842,9 +840,9 @@ public final class ChalkRings {
         }
     }
 
-    /** Reads a text item by item; behind the first fault it stays on the place of the fault. */
+    /** Reads its text item by item; behind the first fault it stays on the place of the fault. */
     private static final class ItemReader {
-        private final Text text;
+        final Text text;
         int place;
         boolean failed;
         boolean isRing;
@@ -854,8 +852,8 @@ public final class ChalkRings {
         int size;
         int owner;
 
-        ItemReader(Text text) {
-            this.text = text;
+        ItemReader() {
+            text = new Text();
         }
 
         void start() {

@@ -209,6 +209,11 @@ public final class PromiseTest {
             "putMarble(6, 5, 1, 0) = 2", "ifFlicked(2, 7, 15, 4) = 910", "ifFlicked(2, 7, 15, 1) = 2",
             "flick(2, 7, 15) = 2", "count(4) = 2", "count(5) = 2", "count(6) = 1", "count(7) = 2",
             "ring(0, 2) = 2", "score(0) = 2", "score(1) = -1", "score(2) = -1", "count(2) = 0");
+        Script.run("6 flick wins two marbles of two rings, and both grow",
+            "drawRing(5, 4, 1) = 0", "drawRing(3, 4, 1) = 1", "putMarble(5, 4, 1, 1) = 0",
+            "putMarble(3, 4, 3, 2) = 1", "putMarble(6, 5, 1, 0) = 2", "ifFlicked(2, 7, 10, 0) = 1",
+            "ifFlicked(2, 7, 11, 1) = 4", "ifFlicked(2, 7, 11, 4) = 405", "flick(2, 7, 11) = 2",
+            "ring(0, 2) = 2", "ring(1, 2) = 2", "count(6) = 2", "score(0) = 4", "score(2) = -3");
         Script.run("6 flick, all wins are decided by the radii ahead of the growth",
             "drawRing(4, 4, 2) = 0", "putMarble(5, 4, 1, 1) = 0", "putMarble(3, 4, 1, 2) = 1",
             "putMarble(6, 5, 1, 0) = 2", "ifFlicked(2, 7, 10, 4) = 506", "ifFlicked(2, 7, 9, 0) = 1",
@@ -338,6 +343,9 @@ public final class PromiseTest {
             "drawRing(15, 0, 15) = 0", "drawRing(15, 15, 15) = 1", "drawRing(15, 30, 15) = 2",
             "putMarble(15, 15, 1, 0) = 0", "wayOut(0) = NONE",
             "move(0, 15, 0) = 2", "wayOut(0) = NONE", "move(0, 14, 0) = 1", "wayOut(0) = 14");
+        Script.run("16 wayOut, from one corner to the other",
+            "drawRing(15, 0, 15) = 0", "drawRing(0, 15, 15) = 1", "drawRing(22, 22, 10) = 2",
+            "putMarble(0, 0, 1, 0) = 0", "wayOut(0) = 30", "drawRing(30, 30, 1) = 3", "wayOut(0) = NONE");
         Script.run("16 wayOut of a won marble",
             "drawRing(10, 10, 1) = 0", "putMarble(10, 10, 1, 1) = 0", "putMarble(9, 10, 1, 0) = 1",
             "flick(1, 2, 9) = 1", "wayOut(0) = NOT_POSSIBLE", "wayOut(1) = 1");
