@@ -297,6 +297,10 @@ public final class PlayEdgesTest {
         Script.run("Promise 6: a ring grows by 1, also for several marbles",
             "drawRing(4, 4, 1) = 0", "putMarble(5, 4, 1, 1) = 0", "putMarble(3, 4, 1, 2) = 1",
             "putMarble(6, 5, 1, 0) = 2", "flick(2, 7, 10) = 2", "ring(0, 2) = 2", "count(6) = 1");
+        Script.run("Promise 6: two rings grow if a marble was won from each, and one if from one",
+            "drawRing(5, 4, 1) = 0", "drawRing(3, 4, 1) = 1", "putMarble(5, 4, 1, 1) = 0", "putMarble(3, 4, 1, 2) = 1",
+            "putMarble(6, 5, 1, 0) = 2", "flick(2, 7, 8) = 1", "ring(0, 2) = 2", "ring(1, 2) = 1", "count(6) = 1",
+            "undo() = 5", "flick(2, 7, 9) = 2", "ring(0, 2) = 2", "ring(1, 2) = 2", "count(6) = 2");
         Script.run("Promise 6: a ring of 14 becomes 15, also for several marbles",
             "drawRing(15, 15, 14) = 0", "putMarble(1, 15, 1, 1) = 0", "putMarble(2, 12, 1, 2) = 1",
             "putMarble(2, 16, 1, 0) = 2", "marble(0, 5) = 1", "marble(1, 5) = 1", "ifFlicked(2, 7, 13, 0) = 1",

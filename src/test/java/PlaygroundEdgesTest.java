@@ -199,13 +199,23 @@ public final class PlaygroundEdgesTest {
             row("drawRing(15, 0, 1) = 0", "move(1, 15, 0) = 1", "move(0, 14, 0) = 1", "flick(0, 2, 2) = 1",
                 "putMarble(20, 0, 1, 0) = 11", "clear() = 12", "count(0) = 0", "count(1) = 0", "count(5) = 0",
                 "clear() = 0", "undo() = 5", "undo() = 4", "count(0) = 12", "count(5) = 1", "score(0) = 1"));
-        Script.run("Promise 5: player 0 is on the move, all numbers are 0, the text and the saved states stay",
-            "drawRing(1, 5, 1) = 0", "putMarble(1, 5, 1, 1) = 0", "putMarble(2, 5, 1, 0) = 1", "flick(1, 6, 3) = 0",
-            "undo() = 3", "putMarble(5, 0, 1, 0) = 2", "flick(2, 0, 1) = 0", "move(0, 2, 6) = 0", "move(0, 1, 5) = 1",
-            "pass() = 2", "pass() = 0", "undo() = 5", "text(m1)", "clear() = 3", "count(0) = 0", "count(1) = 0",
-            "count(2) = 0", "count(3) = 0", "count(4) = 0", "count(5) = 0", "count(6) = 0", "count(7) = 0",
-            "score(0) = 0", "score(1) = 0", "leader() = 0", "ring(0, 0) = NO_SUCH", "marble(0, 0) = NO_SUCH",
-            "at(1, 5) = NONE", "clearText() = 2", "undo() = 5", "count(0) = 3", "count(2) = 2", "count(3) = 1",
-            "count(7) = 1", "at(1, 5) = 0");
+        Script.run("Promise 5: player 0 is on the move, and all numbers so far are 0",
+            "drawRing(10, 10, 1) = 0", "putMarble(10, 10, 3, 0) = 0", "putMarble(9, 10, 3, 1) = 1",
+            "putMarble(0, 5, 1, 1) = 2", "pass() = 1", "flick(1, 2, 2) = 1", "flick(2, 6, 1) = 0",
+            "count(0) = 3", "count(1) = 1", "count(2) = 2", "count(3) = 2", "count(4) = 1", "count(5) = 1",
+            "count(6) = 1", "count(7) = 1", "score(0) = -3", "score(1) = 3", "leader() = 1", "clear() = 3",
+            "count(0) = 0", "count(1) = 0", "count(2) = 0", "count(3) = 0", "count(4) = 0", "count(5) = 0",
+            "count(6) = 0", "count(7) = 0", "score(0) = 0", "score(1) = 0", "leader() = 0", "ring(0, 0) = NO_SUCH",
+            "marble(0, 0) = NO_SUCH", "at(1, 5) = NONE", "undo() = 5", "count(2) = 2", "count(3) = 2", "count(4) = 1",
+            "count(5) = 1", "count(6) = 1", "count(7) = 1", "score(0) = -3", "score(1) = 3", "marble(0, 4) = 1",
+            "ring(0, 2) = 2", "at(1, 5) = 2", "count(0) = 3", "count(1) = 1");
+        Script.run("Promise 5: nothing of the old rings and wins is left for new marbles and rings",
+            "drawRing(10, 10, 1) = 0", "putMarble(10, 10, 3, 1) = 0", "putMarble(9, 10, 3, 0) = 1", "flick(1, 2, 2) = 1",
+            "clear() = 2", "putMarble(10, 10, 2, 2) = 0", "marble(0, 4) = NONE", "marble(0, 5) = 0", "wayOut(0) = 0",
+            "ifFlicked(0, 2, 3, 4) = 1310", "score(0) = 0", "score(2) = 0", "drawRing(20, 20, 1) = 0", "ring(0, 3) = 0",
+            "move(0, 21, 20) = 1");
+        Script.run("Promise 5: the text and the saved states stay",
+            "pass() = 1", "text(m1)", "clear() = 0", "syntaxError() = 2", "clearText() = 2", "undo() = 1",
+            "count(2) = 1", "undo() = 0", "count(2) = 0", "undo() = NOT_POSSIBLE");
     }
 }

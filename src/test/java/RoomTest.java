@@ -5,14 +5,19 @@ import java.lang.management.ManagementFactory;
 public final class RoomTest {
     private static final int CALLS = 512;
     private static final long SLACK = 4096;
+    private static final long MOST_OF_AN_OBJECT = 32768;
 
     public static void main(String[] args) {
         ThreadMXBean threads = (ThreadMXBean) ManagementFactory.getThreadMXBean();
         long self = Thread.currentThread().getId();
         play(new ChalkRings(), 1);
-        ChalkRings game = new ChalkRings();
         threads.getThreadAllocatedBytes(self);
+        long first = threads.getThreadAllocatedBytes(self);
+        ChalkRings game = new ChalkRings();
         long before = threads.getThreadAllocatedBytes(self);
+        Script.check("bytes made with the object (" + (before - first) + ")",
+            before - first > MOST_OF_AN_OBJECT ? 1 : 0, 0);
+        before = threads.getThreadAllocatedBytes(self);
         play(game, CALLS);
         long made = threads.getThreadAllocatedBytes(self) - before;
         Script.check("bytes made by the calls (" + made + ")", made > SLACK ? 1 : 0, 0);

@@ -1,24 +1,13 @@
-import com.sun.source.tree.AnnotationTree;
-import com.sun.source.tree.AssertTree;
 import com.sun.source.tree.BinaryTree;
 import com.sun.source.tree.ClassTree;
 import com.sun.source.tree.CompilationUnitTree;
-import com.sun.source.tree.DoWhileLoopTree;
 import com.sun.source.tree.ExpressionTree;
 import com.sun.source.tree.ForLoopTree;
-import com.sun.source.tree.ImportTree;
-import com.sun.source.tree.InstanceOfTree;
-import com.sun.source.tree.LambdaExpressionTree;
-import com.sun.source.tree.LiteralTree;
-import com.sun.source.tree.MemberReferenceTree;
 import com.sun.source.tree.MethodInvocationTree;
 import com.sun.source.tree.MethodTree;
 import com.sun.source.tree.NewArrayTree;
 import com.sun.source.tree.NewClassTree;
-import com.sun.source.tree.SynchronizedTree;
-import com.sun.source.tree.ThrowTree;
 import com.sun.source.tree.Tree;
-import com.sun.source.tree.TryTree;
 import com.sun.source.tree.TypeCastTree;
 import com.sun.source.tree.VariableTree;
 import com.sun.source.tree.WhileLoopTree;
@@ -52,6 +41,11 @@ import javax.tools.ToolProvider;
 public final class RulesTest {
     private static final Path SOURCE = Path.of("src", "main", "java", "ChalkRings.java");
     private static final Set<String> LIBRARY = Set.of("Math.max", "Math.min", "Integer.bitCount");
+    private static final Map<Tree.Kind, Integer> LEFT_OUT = Map.ofEntries(
+        Map.entry(Tree.Kind.LAMBDA_EXPRESSION, 2), Map.entry(Tree.Kind.MEMBER_REFERENCE, 2),
+        Map.entry(Tree.Kind.STRING_LITERAL, 3), Map.entry(Tree.Kind.IMPORT, 4), Map.entry(Tree.Kind.ANNOTATION, 4),
+        Map.entry(Tree.Kind.THROW, 6), Map.entry(Tree.Kind.TRY, 6), Map.entry(Tree.Kind.SYNCHRONIZED, 6),
+        Map.entry(Tree.Kind.ASSERT, 6), Map.entry(Tree.Kind.INSTANCE_OF, 6), Map.entry(Tree.Kind.DO_WHILE_LOOP, 9));
     private static final int MOST_CLASSES = 12;
     private static final int MOST_FIELDS = 20;
     private static final int MOST_PARAMETERS = 7;
@@ -140,6 +134,14 @@ public final class RulesTest {
                 }
             }
             return null;
+        }
+
+        @Override
+        public Void scan(Tree tree, Void none) {
+            if (tree != null && LEFT_OUT.containsKey(tree.getKind())) {
+                fault(LEFT_OUT.get(tree.getKind()), "" + tree.getKind(), tree);
+            }
+            return super.scan(tree, none);
         }
 
         @Override
@@ -254,12 +256,6 @@ public final class RulesTest {
         }
 
         @Override
-        public Void visitDoWhileLoop(DoWhileLoopTree tree, Void none) {
-            fault(9, "a loop without a counter against a bound", tree);
-            return super.visitDoWhileLoop(tree, none);
-        }
-
-        @Override
         public Void visitForLoop(ForLoopTree tree, Void none) {
             boolean bounded = tree.getCondition() instanceof BinaryTree && tree.getUpdate().size() == 1
                 && tree.getCondition().toString().matches("\\w+ <=? [\\w.]+( && .*)?")
@@ -271,73 +267,11 @@ public final class RulesTest {
         }
 
         @Override
-        public Void visitImport(ImportTree tree, Void none) {
-            fault(4, "an import", tree);
-            return super.visitImport(tree, none);
-        }
-
-        @Override
-        public Void visitLambdaExpression(LambdaExpressionTree tree, Void none) {
-            fault(2, "a lambda", tree);
-            return super.visitLambdaExpression(tree, none);
-        }
-
-        @Override
-        public Void visitMemberReference(MemberReferenceTree tree, Void none) {
-            fault(2, "a method reference", tree);
-            return super.visitMemberReference(tree, none);
-        }
-
-        @Override
-        public Void visitThrow(ThrowTree tree, Void none) {
-            fault(6, "throw", tree);
-            return super.visitThrow(tree, none);
-        }
-
-        @Override
-        public Void visitTry(TryTree tree, Void none) {
-            fault(6, "try", tree);
-            return super.visitTry(tree, none);
-        }
-
-        @Override
-        public Void visitSynchronized(SynchronizedTree tree, Void none) {
-            fault(6, "synchronized", tree);
-            return super.visitSynchronized(tree, none);
-        }
-
-        @Override
-        public Void visitAssert(AssertTree tree, Void none) {
-            fault(6, "assert", tree);
-            return super.visitAssert(tree, none);
-        }
-
-        @Override
-        public Void visitInstanceOf(InstanceOfTree tree, Void none) {
-            fault(6, "instanceof", tree);
-            return super.visitInstanceOf(tree, none);
-        }
-
-        @Override
         public Void visitTypeCast(TypeCastTree tree, Void none) {
             if (!tree.getType().toString().equals("char")) {
                 fault(6, "a cast", tree);
             }
             return super.visitTypeCast(tree, none);
-        }
-
-        @Override
-        public Void visitAnnotation(AnnotationTree tree, Void none) {
-            fault(4, "an annotation", tree);
-            return super.visitAnnotation(tree, none);
-        }
-
-        @Override
-        public Void visitLiteral(LiteralTree tree, Void none) {
-            if (tree.getKind() == Tree.Kind.STRING_LITERAL) {
-                fault(3, "a text", tree);
-            }
-            return super.visitLiteral(tree, none);
         }
     }
 }
