@@ -450,20 +450,12 @@ public final class PromiseTest {
 
     private static void digest() throws Exception {
         Script.run("22 digest",
-            "digest() = " + hash(0, 0, 0, 0, 0, 0, 0, 0, 0, 0, 0, 0),
+            "digest() = " + Script.hash(0, 0, 0, 0, 0, 0, 0, 0, 0, 0, 0, 0),
             "drawRing(10, 10, 1) = 0", "putMarble(10, 10, 2, 1) = 0", "putMarble(8, 10, 2, 0) = 1",
-            "digest() = " + hash(2, 1, 0, 0, 0, 0, 0, 0, 10, 10, 2, 1, -1006, 1, 8, 10, 2, 0, -1006, 0,
+            "digest() = " + Script.hash(2, 1, 0, 0, 0, 0, 0, 0, 10, 10, 2, 1, -1006, 1, 8, 10, 2, 0, -1006, 0,
                 10, 10, 1, 1, 5, 0, 0, 0, 0, 1, 0),
             "flick(1, 2, 6) = 1",
-            "digest() = " + hash(2, 1, 0, 1, 1, 1, 1, 0, -1006, -1006, 2, 1, 0, -1006, 9, 10, 2, 0, -1006, 1,
+            "digest() = " + Script.hash(2, 1, 0, 1, 1, 1, 1, 0, -1006, -1006, 2, 1, 0, -1006, 9, 10, 2, 0, -1006, 1,
                 10, 10, 2, 2, 13, 2, -2, 0, 0, -1003, 1));
-    }
-
-    private static long hash(int... values) {
-        long hash = 4;
-        for (int value : values) {
-            hash = 31 * hash + value;
-        }
-        return hash;
     }
 }

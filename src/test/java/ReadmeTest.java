@@ -66,7 +66,8 @@ public final class ReadmeTest {
         Script.check("README.md: each answer has its comment", due.size(),
             example.lines().filter(line -> line.startsWith("int ")).count());
         Path file = folder.resolve(name + ".java");
-        Files.writeString(file, "public class " + name + " {\npublic static void run(java.util.List<Integer> answers) {\n"
+        Files.writeString(file, "public class " + name + " {\n"
+            + "public static void run(java.util.List<Integer> answers) {\n"
             + ANSWER.matcher(example).replaceAll("$0\nanswers.add($1);") + "}\n}\n");
         int failed = ToolProvider.getSystemJavaCompiler().run(null, null, null, "-cp",
             System.getProperty("java.class.path"), "-d", folder.toString(), file.toString());
@@ -83,7 +84,8 @@ public final class ReadmeTest {
     }
 
     private static void checkCommands(List<String> commands) throws Exception {
-        Script.check("README.md compiles the class, and runs all tests, a single one and a shared one", commands.size(), 4);
+        Script.check("README.md compiles the class, and runs all tests, a single one and a shared one",
+            commands.size(), 4);
         Script.check("README.md tells how all tests are run", commands.contains(ALL_TESTS) ? 1 : 0, 1);
         for (String command : commands) {
             if (!command.equals(ALL_TESTS)) {
@@ -97,11 +99,12 @@ public final class ReadmeTest {
     private static void checkCalls(String page) {
         for (Method method : ChalkRings.class.getDeclaredMethods()) {
             if (Modifier.isPublic(method.getModifiers())) {
-                Matcher row = Pattern.compile("^\\| `" + method.getName() + "\\((.*?)\\)`", Pattern.MULTILINE).matcher(page);
+                Matcher row = Pattern.compile("^\\| `" + method.getName() + "\\((.*?)\\)`", Pattern.MULTILINE)
+                    .matcher(page);
                 boolean told = row.find();
                 Script.check("README.md has a row of " + method.getName(), told ? 1 : 0, 1);
-                Script.check("README.md: arguments of " + method.getName(),
-                    !told ? -1 : row.group(1).isEmpty() ? 0 : row.group(1).split(",").length, method.getParameterCount());
+                int arguments = !told ? -1 : row.group(1).isEmpty() ? 0 : row.group(1).split(",").length;
+                Script.check("README.md: arguments of " + method.getName(), arguments, method.getParameterCount());
             }
         }
     }

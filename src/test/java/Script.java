@@ -87,6 +87,15 @@ final class Script {
         }
     }
 
+    /** The digest of these values, for which the document lets the hash start at 4. */
+    static long hash(int... values) {
+        long hash = 4;
+        for (int value : values) {
+            hash = 31 * hash + value;
+        }
+        return hash;
+    }
+
     private static void typeAll(String title, ChalkRings game, String signs, List<Call> before) throws Exception {
         game.clearText();
         before.add(Call.of("clearText()"));

@@ -20,7 +20,7 @@ public final class TermsTest {
         lastCall("type(126) = 1");
         lastCall("clear() = 0");
         lastCall("putMarble(31, 0, 1, 0) = NO_SUCH");
-        lastCall("digest() = " + hash(0, 0, 1, 0, 0, 0, 0, 0, 0, 0, 0, 0));
+        lastCall("digest() = " + Script.hash(0, 0, 1, 0, 0, 0, 0, 0, 0, 0, 0, 0));
     }
 
     /** Behind 511 passes player 1 is on the move. */
@@ -30,7 +30,8 @@ public final class TermsTest {
             lines.add("pass() = " + call % 3);
         }
         lines.add(last);
-        Script.run("What it is: an object is used for at most 512 calls, the last one is", lines.toArray(new String[0]));
+        Script.run("What it is: an object is used for at most 512 calls, the last one is " + last,
+            lines.toArray(new String[0]));
     }
 
     private static void whatItIsObjects() {
@@ -68,13 +69,5 @@ public final class TermsTest {
             "pass() = 2", "putMarble(10, 20, 1, 0) = 4", "putMarble(9, 20, 1, 2) = 5", "flick(5, 2, 2) = 1",
             "score(0) = 2", "score(1) = -1", "score(2) = -1", "leader() = 0", "count(5) = 3", "undo() = 5",
             "score(0) = 3", "score(2) = -2");
-    }
-
-    private static long hash(int... values) {
-        long hash = 4;
-        for (int value : values) {
-            hash = 31 * hash + value;
-        }
-        return hash;
     }
 }

@@ -93,23 +93,23 @@ public final class UndoEdgesTest {
 
     private static void promise22Empty() throws Exception {
         Script.run("Promise 22: the empty playground, the hash starts at 4",
-            "digest() = " + hash(0, 0, 0, 0, 0, 0, 0, 0, 0, 0, 0, 0), "pass() = 1",
-            "digest() = " + hash(0, 0, 1, 0, 0, 0, 0, 0, 0, 0, 0, 0), "text(m3)",
-            "digest() = " + hash(0, 0, 1, 0, 0, 0, 0, 0, 0, 0, 0, 0), "undo() = 0",
-            "digest() = " + hash(0, 0, 0, 0, 0, 0, 0, 0, 0, 0, 0, 0));
+            "digest() = " + Script.hash(0, 0, 0, 0, 0, 0, 0, 0, 0, 0, 0, 0), "pass() = 1",
+            "digest() = " + Script.hash(0, 0, 1, 0, 0, 0, 0, 0, 0, 0, 0, 0), "text(m3)",
+            "digest() = " + Script.hash(0, 0, 1, 0, 0, 0, 0, 0, 0, 0, 0, 0), "undo() = 0",
+            "digest() = " + Script.hash(0, 0, 0, 0, 0, 0, 0, 0, 0, 0, 0, 0));
     }
 
     private static void promise22Lists() throws Exception {
         Script.run("Promise 22: rings alone, marbles alone, both",
-            "drawRing(0, 30, 15) = 0", "digest() = " + hash(0, 1, 0, 0, 0, 0, 0, 0, 0, 30, 15, 0, 193, 0, 0, 0, 0),
+            "drawRing(0, 30, 15) = 0", "digest() = " + Script.hash(0, 1, 0, 0, 0, 0, 0, 0, 0, 30, 15, 0, 193, 0, 0, 0, 0),
             "undo() = 0", "putMarble(0, 29, 3, 2) = 0",
-            "digest() = " + hash(1, 0, 0, 0, 0, 0, 0, 0, 0, 29, 3, 2, -1006, 0, 0, 0, 0, 0, 0),
-            "drawRing(0, 30, 15) = 0", "digest() = " + hash(1, 1, 0, 0, 0, 0, 0, 0, 0, 29, 3, 2, -1006, 1,
+            "digest() = " + Script.hash(1, 0, 0, 0, 0, 0, 0, 0, 0, 29, 3, 2, -1006, 0, 0, 0, 0, 0, 0),
+            "drawRing(0, 30, 15) = 0", "digest() = " + Script.hash(1, 1, 0, 0, 0, 0, 0, 0, 0, 29, 3, 2, -1006, 1,
                 0, 30, 15, 1, 193, 0, 0, 0, 0, 11));
         // From 15, 15 the straight ways end at the walls, and the diagonal ones lead through the rings of 15.
         Script.run("Promise 22: wayOut of a marble may be NONE",
             "drawRing(15, 0, 15) = 0", "drawRing(15, 15, 15) = 1", "drawRing(15, 30, 15) = 2",
-            "putMarble(15, 15, 1, 0) = 0", "digest() = " + hash(1, 3, 0, 0, 0, 0, 0, 0, 15, 15, 1, 0, -1006, 7,
+            "putMarble(15, 15, 1, 0) = 0", "digest() = " + Script.hash(1, 3, 0, 0, 0, 0, 0, 0, 15, 15, 1, 0, -1006, 7,
                 15, 0, 15, 1, 370, 15, 15, 15, 1, 709, 15, 30, 15, 1, 370, 0, 0, 0, 0, -1006));
     }
 
@@ -117,22 +117,14 @@ public final class UndoEdgesTest {
         Script.run("Promise 22: numbers of a won marble and its wayOut as they are answered",
             "drawRing(1, 10, 1) = 0", "putMarble(1, 10, 3, 0) = 0", "putMarble(1, 9, 3, 1) = 1", "pass() = 1",
             "flick(1, 4, 2) = 1", "pass() = 2", "pass() = 0", "pass() = 1", "flick(1, 7, 1) = 0",
-            "digest() = " + hash(2, 1, 2, 2, 1, 1, 1, 0, -1006, -1006, 3, 0, 1, -1006, 0, 8, 3, 1, -1006, 0,
+            "digest() = " + Script.hash(2, 1, 2, 2, 1, 1, 1, 0, -1006, -1006, 3, 0, 1, -1006, 0, 8, 3, 1, -1006, 0,
                 1, 10, 2, 0, 12, -3, 3, 0, 1, -1003, 0));
     }
 
     private static void promise22Overflow() throws Exception {
         Script.run("Promise 22: long arithmetic with overflow",
             "putMarble(30, 30, 3, 2) = 0", "putMarble(29, 30, 3, 2) = 1",
-            "digest() = " + hash(2, 0, 0, 0, 0, 0, 0, 0, 30, 30, 3, 2, -1006, 0, 29, 30, 3, 2, -1006, 0,
+            "digest() = " + Script.hash(2, 0, 0, 0, 0, 0, 0, 0, 30, 30, 3, 2, -1006, 0, 29, 30, 3, 2, -1006, 0,
                 0, 0, 0, 0, 0, 0));
-    }
-
-    private static long hash(int... values) {
-        long hash = 4;
-        for (int value : values) {
-            hash = 31 * hash + value;
-        }
-        return hash;
     }
 }
